@@ -39,7 +39,7 @@ public final class EveryVineTest {
         for (int p = 0; p < n; p++) {
             text.append("pbd".charAt(random.nextInt(3))).append(random.nextInt(10));
         }
-        both.plant(text.toString(), random.nextInt(3), random.nextInt(5));
+        Calls.plant(both, text.toString(), random.nextInt(3), random.nextInt(5));
         Checks.due("number of " + text, both.x.number(), number);
         for (String name : new String[] {"number", "alike", "pairs"}) {
             both.call(name);
@@ -53,24 +53,27 @@ public final class EveryVineTest {
             both.call("middle", k);
             both.call("loners", k);
         }
-        askOfPosts(both, n);
+        for (int p = 0; p <= n; p++) {
+            askOfPost(text.toString(), n, p);
+        }
     }
 
-    private static void askOfPosts(Both both, int n) {
-        for (int p = 0; p <= n; p++) {
-            for (int what = 0; what <= 6; what++) {
-                both.call("ofPost", p, what);
-            }
-            for (int q = 0; q <= n; q++) {
-                both.call("far", p, q);
-                both.call("part", p, q);
-                for (int k = 0; k <= n; k++) {
-                    both.call("way", p, q, k);
-                }
-            }
-            both.call("tell", p);
-            both.call("knock", p);
-            both.call("trace");
+    /** An object of its own for each post, so that none is asked too much. */
+    private static void askOfPost(String text, int n, int p) {
+        Both both = new Both();
+        Calls.plant(both, text, p % 3, 0);
+        for (int what = 0; what <= 6; what++) {
+            both.call("ofPost", p, what);
         }
+        for (int q = 0; q <= n; q++) {
+            both.call("far", p, q);
+            both.call("part", p, q);
+            for (int k = 0; k <= n; k++) {
+                both.call("way", p, q, k);
+            }
+        }
+        both.call("tell", p);
+        both.call("knock", p);
+        both.call("trace");
     }
 }

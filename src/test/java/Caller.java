@@ -1,0 +1,4 @@
+/** Takes calls that are told by their names. */
+interface Caller {
+    long call(String name, int... a);
+}
