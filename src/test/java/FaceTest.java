@@ -7,7 +7,9 @@ import java.nio.charset.StandardCharsets;
 import java.nio.file.Files;
 import java.nio.file.Path;
 import java.util.Arrays;
+import java.util.Map;
 import java.util.Set;
+import java.util.TreeMap;
 import java.util.TreeSet;
 import java.util.regex.Matcher;
 import java.util.regex.Pattern;
@@ -27,6 +29,9 @@ public final class FaceTest {
         "int UNKNOWN -1", "int OUTSIDE -2", "int STATE -3", "int FULL -4", "int NONE -9",
         "long LOST -9223372036854775808"
     };
+
+    /** What LANGUAGE.md leaves of calls that are no recursion; the class has no recursion at all. */
+    private static final int MOST_DEEP = 8;
 
     public static void main(String[] args) throws Exception {
         face();
@@ -69,6 +74,7 @@ public final class FaceTest {
         }
         Class<?>[] inside = VineRows.class.getDeclaredClasses();
         Checks.holds("few classes", inside.length < 12);
+        int fields = 0;
         for (Class<?> c : inside) {
             Checks.holds(c + " is static", Modifier.isStatic(c.getModifiers()));
             Checks.holds(c + " is not public", !Modifier.isPublic(c.getModifiers()));
@@ -84,11 +90,15 @@ public final class FaceTest {
         for (Method m : VineRows.class.getDeclaredMethods()) {
             boolean own = Modifier.isPrivate(m.getModifiers());
             Checks.holds(m + " has a name of its own", !own || !names.contains(m.getName()));
+            Checks.holds(m + " takes few", m.getParameterCount() <= 7);
         }
         for (Field f : VineRows.class.getDeclaredFields()) {
             boolean still = Modifier.isStatic(f.getModifiers());
             Checks.holds(f + " is final", !still || Modifier.isFinal(f.getModifiers()));
+            Checks.holds(f + " is a constant", !still || f.getType() == int.class || f.getType() == long.class);
+            fields += still ? 0 : 1;
         }
+        Checks.holds("few fields beside constants", fields <= 20);
     }
 
     private static void source(String path) throws IOException {
@@ -121,6 +131,7 @@ public final class FaceTest {
     }
 
     private static void methods(String[] lines) {
+        Map<String, String> bodies = new TreeMap<>();
         int begun = -1;
         for (int k = 0; k < lines.length; k++) {
             String line = lines[k];
@@ -129,10 +140,29 @@ public final class FaceTest {
             }
             if (begun >= 0 && line.matches(" {4}( {4})?\\}") && line.indexOf('}') == indent(lines[begun])) {
                 Checks.holds("short: " + lines[begun].trim(), k - begun < 60);
+                String name = lines[begun].replaceAll("\\(.*", "").replaceAll(".* ", "");
+                String body = String.join("\n", Arrays.copyOfRange(lines, begun + 1, k));
+                // Two of one name would have their calls mixed up in what is found below.
+                Checks.holds(name + " is the only one of its name", bodies.put(name, body) == null);
                 begun = -1;
             }
         }
         Checks.holds("methods end", begun < 0);
+        for (String name : bodies.keySet()) {
+            Checks.holds(name + " calls at most eight deep", depth(name, bodies, MOST_DEEP) <= MOST_DEEP);
+        }
+    }
+
+    /** How many calls stand open at once, this one, too; more than most, if one calls itself in the end. */
+    private static int depth(String name, Map<String, String> bodies, int most) {
+        int deepest = 0;
+        Matcher call = Pattern.compile("\\b(\\w+)\\(").matcher(bodies.get(name));
+        while (most > 0 && call.find()) {
+            if (bodies.containsKey(call.group(1))) {
+                deepest = Math.max(deepest, depth(call.group(1), bodies, most - 1));
+            }
+        }
+        return 1 + deepest;
     }
 
     private static int indent(String line) {
